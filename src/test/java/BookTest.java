@@ -8,6 +8,7 @@ public final class BookTest {
         planIsOfFreeRanges();
         planOfSeveral();
         planGoesToTheLeast();
+        planComesFromTheGreatest();
         order();
         status();
         Check.end("BookTest");
@@ -107,6 +108,17 @@ public final class BookTest {
         Check.due("22: from 0 (3), not 2 or 4, to 1 (1), not 3", x.plan(), 41);
         Check.moveWholly(x, 4, 3);
         Check.due("22: from 2 (3) to 1 (1): RANGE 1 has 3 ROWS", x.plan(), NONE);
+    }
+
+    private static void planComesFromTheGreatest() {
+        RangeHouse x = withRows(2, 1, 3, 2, 2, 2);
+        Check.moveWholly(x, 2, 1);
+        Check.moveWholly(x, 3, 1);
+        Check.moveWholly(x, 4, 2);
+        Check.moveWholly(x, 5, 2);
+        Check.due("22: from 1 (5), not 0 (3) or 2 (4), to 3", x.plan(), 23);
+        Check.moveWholly(x, 2, 3);
+        Check.due("22: from 2 (4) to 4", x.plan(), 44);
     }
 
     private static void order() {

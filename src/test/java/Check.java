@@ -42,6 +42,16 @@ final class Check {
         return count;
     }
 
+    /** A house with one CALLER that has written 1 more than the KEY to each KEY. */
+    static RangeHouse withRows(int... keys) {
+        RangeHouse x = new RangeHouse();
+        x.caller();
+        for (int key : keys) {
+            done(x, 0, 1, key, key + 1, 0);
+        }
+        return x;
+    }
+
     /** Delivers each LETTER from one on that never was, and those that they send. */
     static void deliverFrom(RangeHouse x, int first) {
         for (int l = first; l < x.status(3); l++) {

@@ -24,15 +24,6 @@ public final class MoveTest {
         Check.end("MoveTest");
     }
 
-    private static RangeHouse withRows(int... keys) {
-        RangeHouse x = new RangeHouse();
-        x.caller();
-        for (int key : keys) {
-            Check.done(x, 0, 1, key, key + 1, 0);
-        }
-        return x;
-    }
-
     private static void moveRefused() {
         RangeHouse x = new RangeHouse();
         Check.due("8: no RANGE", x.move(1, 1), -1);
@@ -54,7 +45,7 @@ public final class MoveTest {
     }
 
     private static void wholeMove() {
-        RangeHouse x = withRows(7);
+        RangeHouse x = Check.withRows(7);
         Check.due("8: move(0, 3)", x.move(0, 3), 2);
         Check.letterIs(x, 2, 3, 0, 0, 0, 2, NONE, NONE, NONE, NONE);
         Check.due("BEGIN", x.deliver(2), 1);
@@ -100,13 +91,13 @@ public final class MoveTest {
     }
 
     private static void partsAndChanges() {
-        RangeHouse x = withRows(40, 10, 30, 20);
+        RangeHouse x = Check.withRows(40, 10, 30, 20);
         x.move(0, 1);
         int l = Check.last(x);
         x.deliver(l);
         Check.due("4 KEYS to be sent", x.at(0, 0, 7), 4);
         x.step(0);
-        Check.due("19: 3 KEYS in a PART", x.letter(l + 2, 10), 3);
+        Check.due("17: 3 KEYS in a PART", x.letter(l + 2, 10), 3);
         Check.due("1 KEY to be sent", x.at(0, 0, 7), 1);
         Check.done(x, 0, 3, 10, 100, 0);
         Check.due("a KEY that was sent is to be sent", x.at(0, 0, 7), 2);
@@ -146,7 +137,7 @@ public final class MoveTest {
     }
 
     private static void withoutRowsFirst() {
-        RangeHouse x = withRows(5, 6, 7, 8);
+        RangeHouse x = Check.withRows(5, 6, 7, 8);
         x.move(0, 1);
         x.deliver(Check.last(x));
         x.step(0);
@@ -172,7 +163,7 @@ public final class MoveTest {
     }
 
     private static void lateBegin() {
-        RangeHouse x = withRows(1, 2, 3, 4);
+        RangeHouse x = Check.withRows(1, 2, 3, 4);
         x.move(0, 1);
         int begin = Check.last(x);
         x.deliver(begin);
@@ -197,7 +188,7 @@ public final class MoveTest {
     }
 
     private static void lateParts() {
-        RangeHouse x = withRows(1, 2, 3, 4, 5, 6, 7);
+        RangeHouse x = Check.withRows(1, 2, 3, 4, 5, 6, 7);
         x.move(0, 1);
         x.deliver(Check.last(x));
         x.step(0);
@@ -226,7 +217,7 @@ public final class MoveTest {
         Check.atIsNothing(x, 1, 0);
 
         // a PART that comes before the one in front of it is not taken
-        RangeHouse y = withRows(1, 2, 3, 4, 5, 6, 7);
+        RangeHouse y = Check.withRows(1, 2, 3, 4, 5, 6, 7);
         y.split(0, 4);
         y.move(0, 1);
         y.deliver(Check.last(y));
@@ -252,7 +243,7 @@ public final class MoveTest {
     }
 
     private static void takerFalls() {
-        RangeHouse x = withRows(1, 2, 3, 4);
+        RangeHouse x = Check.withRows(1, 2, 3, 4);
         x.move(0, 1);
         x.deliver(Check.last(x));
         x.step(0);
@@ -293,7 +284,7 @@ public final class MoveTest {
     }
 
     private static void takerFallsBehindTheEnd() {
-        RangeHouse x = withRows(1);
+        RangeHouse x = Check.withRows(1);
         x.move(0, 1);
         x.deliver(Check.last(x));
         x.step(0);
@@ -320,7 +311,7 @@ public final class MoveTest {
         Check.due("a DONE", x.letter(Check.last(x), 0), 6);
 
         // behind the TOOK of the END no new ATTEMPT is begun
-        RangeHouse y = withRows(1);
+        RangeHouse y = Check.withRows(1);
         y.move(0, 1);
         y.deliver(Check.last(y));
         y.step(0);
@@ -410,7 +401,7 @@ public final class MoveTest {
     }
 
     private static void undoOfGiving() {
-        RangeHouse x = withRows(1, 2);
+        RangeHouse x = Check.withRows(1, 2);
         x.move(0, 2);
         x.deliver(Check.last(x));
         x.step(0);
@@ -469,7 +460,7 @@ public final class MoveTest {
     }
 
     private static void undoAndLateLetters() {
-        RangeHouse x = withRows(1);
+        RangeHouse x = Check.withRows(1);
         x.move(0, 1);
         int begin = Check.last(x);
         x.deliver(begin);
@@ -506,7 +497,7 @@ public final class MoveTest {
     }
 
     private static void dropInAnyCase() {
-        RangeHouse x = withRows(1);
+        RangeHouse x = Check.withRows(1);
         x.move(0, 1);
         x.deliver(Check.last(x));
         x.step(0);
@@ -527,7 +518,7 @@ public final class MoveTest {
     }
 
     private static void goInAnyCase() {
-        RangeHouse x = withRows(1);
+        RangeHouse x = Check.withRows(1);
         int first = x.status(3);
         Check.moveWholly(x, 0, 1);
         int go = first;
@@ -554,7 +545,7 @@ public final class MoveTest {
     }
 
     private static void openTwice() {
-        RangeHouse x = withRows(1);
+        RangeHouse x = Check.withRows(1);
         int first = x.status(3);
         Check.moveWholly(x, 0, 1);
         int open = first;
@@ -590,7 +581,7 @@ public final class MoveTest {
     }
 
     private static void doneTwice() {
-        RangeHouse x = withRows(1);
+        RangeHouse x = Check.withRows(1);
         x.move(0, 1);
         x.deliver(Check.last(x));
         for (int i = 0; i < 2; i++) {

@@ -15,6 +15,8 @@ public final class ServeTest {
         oldWithNothing();
         oldThatIsTooOld();
         oldCutsSeveral();
+        neighboursShareNoKey();
+        knownByTheEdgesOfSpans();
         Check.end("ServeTest");
     }
 
@@ -297,5 +299,46 @@ public final class ServeTest {
         y.deliver(1);
         Check.copyIs(y, 0, 5, 0, 1, 0, 0, 75);
         Check.copyIs(y, 1, 5, 0, 1, 0, 0, 10000);
+    }
+
+    /** Neighbours in the COPY, of the same EPOCH or a greater one, do not stand in an OLD's way. */
+    private static void neighboursShareNoKey() {
+        RangeHouse x = new RangeHouse();
+        x.caller();
+        x.split(0, 100);
+        x.split(1, 200);
+        x.call(0, 0, 50, 0, 0);
+        x.call(0, 0, 150, 0, 0);
+        x.call(0, 0, 250, 0, 0);
+        x.deliver(0);
+        x.deliver(1);
+        x.deliver(2);
+        x.deliver(4);
+        Check.copyIs(x, 0, 150, 1, 3, 0, 100, 200);
+        x.deliver(3);
+        Check.copyIs(x, 0, 99, 0, 2, 0, 0, 100);
+        x.deliver(5);
+        Check.copyIs(x, 0, 200, 2, 3, 0, 200, 10000);
+        Check.copyIs(x, 0, 199, 1, 3, 0, 100, 200);
+    }
+
+    private static void knownByTheEdgesOfSpans() {
+        RangeHouse x = new RangeHouse();
+        x.caller();
+        x.split(0, 100);
+        x.split(1, 200);
+        int[] keys = {99, 100, 199, 200};
+        int[] known = {0, 1, 1, 2};
+        for (int i = 0; i < keys.length; i++) {
+            x.call(0, 0, keys[i], 0, 0);
+            x.deliver(Check.last(x));
+            Check.due("the RANGE that has " + keys[i], x.letter(Check.last(x), 3), known[i]);
+        }
+        Check.moveWholly(x, 1, 3);
+        for (int i = 0; i < keys.length; i++) {
+            x.call(0, 0, keys[i], 0, 0);
+            x.deliver(Check.last(x));
+            Check.due("the RANGE that had " + keys[i], x.letter(Check.last(x), 3), known[i]);
+        }
     }
 }

@@ -15,17 +15,8 @@ public final class SplitMergeTest {
         Check.end("SplitMergeTest");
     }
 
-    private static RangeHouse withRows(int... keys) {
-        RangeHouse x = new RangeHouse();
-        x.caller();
-        for (int key : keys) {
-            Check.done(x, 0, 1, key, key + 1, 0);
-        }
-        return x;
-    }
-
     private static void split() {
-        RangeHouse x = withRows(0, 499, 500, 501, 9999);
+        RangeHouse x = Check.withRows(0, 499, 500, 501, 9999);
         Check.due("10: split(0, 500)", x.split(0, 500), 1);
         Check.rangeIs(x, 0, 0, 500, 2, 0, NONE, 0, 1);
         Check.rangeIs(x, 1, 500, 10000, 2, 0, NONE, 0, 1);
@@ -97,7 +88,7 @@ public final class SplitMergeTest {
     }
 
     private static void merge() {
-        RangeHouse x = withRows(10, 20, 30);
+        RangeHouse x = Check.withRows(10, 20, 30);
         x.split(0, 20);
         x.split(1, 30);
         Check.due("11: merge(0, 1)", x.merge(0, 1), 4);
@@ -117,7 +108,7 @@ public final class SplitMergeTest {
     }
 
     private static void mergeOfTheUpper() {
-        RangeHouse x = withRows(10, 20);
+        RangeHouse x = Check.withRows(10, 20);
         x.split(0, 20);
         x.split(0, 15);
         Check.due("11: merge(1, 2)", x.merge(1, 2), 4);
@@ -181,6 +172,10 @@ public final class SplitMergeTest {
         Check.moveWholly(x, 1, 3);
         Check.due("11: two HOMES", x.merge(0, 1), -5);
         Check.due("11: two HOMES", x.merge(1, 0), -5);
+        x.fall(3);
+        Check.due("11: the first one's HOME is DOWN", x.merge(1, 0), -4);
+        Check.due("11: two HOMES, the first one's is UP", x.merge(0, 1), -5);
+        x.rise(3);
         Check.moveWholly(x, 2, 3);
         x.fall(3);
         Check.due("11: the HOME is DOWN", x.merge(1, 2), -4);
