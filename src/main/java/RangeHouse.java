@@ -265,7 +265,7 @@ public final class RangeHouse {
         }
         Spot first = page.spot;
         Spot second = other.spot;
-        if (!isUp(0) || !isUp(first.home)) {
+        if (!isUp(0) || !isUp(first.home) || !isUp(second.home)) {
             return refuse(DOWN);
         }
         Holding kept = holdingAt(first.home, a);
