@@ -1,17 +1,37 @@
+import java.util.HashSet;
+import java.util.Set;
+
 /** What the tests share: telling answers that are not due, and driving a house. */
 final class Check {
     static final int NONE = RangeHouse.NONE;
+    private static final Set<String> NAMES = new HashSet<>();
+    private static String test = "";
     private static int asked = 0;
     private static int wrong = 0;
 
     private Check() {
     }
 
+    /** A test of its own: its name says of which sentence of the document it is. */
+    static void test(String name, Runnable body) {
+        test = name + ": ";
+        int before = asked;
+        holds("a name that no other test has", NAMES.add(name));
+        try {
+            body.run();
+        } catch (RuntimeException | Error e) {
+            e.printStackTrace(System.out);
+            holds("nothing is thrown", false);
+        }
+        holds("something is asked", asked > before + 1);
+        test = "";
+    }
+
     static void due(String what, long got, long want) {
         asked++;
         if (got != want) {
             wrong++;
-            System.out.println(what + " answered " + got + ", due is " + want);
+            System.out.println(test + what + " answered " + got + ", due is " + want);
         }
     }
 
@@ -20,7 +40,8 @@ final class Check {
     }
 
     static void end(String name) {
-        System.out.println(name + ": " + asked + " answers, " + wrong + " not as due");
+        String tests = NAMES.isEmpty() ? "" : NAMES.size() + " tests, ";
+        System.out.println(name + ": " + tests + asked + " answers, " + wrong + " not as due");
         if (wrong != 0 || asked == 0) {
             System.exit(1);
         }
