@@ -119,6 +119,24 @@ public final class BookEdgeTest {
             Check.due("20 row of 500", x.row(0, 1, 500), 501);
             Check.due("20 row of 501", x.row(0, 1, 501), 502);
         });
+        Check.test("10 split: ROWS that were written from the greatest KEY down", () -> {
+            RangeHouse x = Check.withRows(9999, 501, 499, 0, 500);
+            x.split(0, 500);
+            Check.due("19 ROWS of 0", x.at(0, 0, 2), 2);
+            Check.due("19 ROWS of 1", x.at(0, 1, 2), 3);
+            int[] keys = {0, 499, 500, 501, 9999};
+            for (int key : keys) {
+                Check.due("20 row in 0", x.row(0, 0, key), key < 500 ? key + 1 : 0);
+                Check.due("20 row in 1", x.row(0, 1, key), key < 500 ? 0 : key + 1);
+            }
+        });
+        Check.test("10 split: all ROWS stay, or all go", () -> {
+            RangeHouse x = Check.withRows(20, 10);
+            x.split(0, 21);
+            Check.due("19 ROWS of 0 and 1", x.at(0, 0, 2) * 10 + x.at(0, 1, 2), 20);
+            x.split(0, 10);
+            Check.due("19 ROWS of 0 and 2", x.at(0, 0, 2) * 10 + x.at(0, 2, 2), 2);
+        });
         Check.test("10 split: a RANGE of two KEYS, and no more", () -> {
             RangeHouse x = new RangeHouse();
             x.split(0, 2);

@@ -321,7 +321,22 @@ public final class CallLettersTest {
             Check.copyIs(x, 0, 99, 2, 3, 0, 99, 100);
             return x;
         }, 1, 1);
-        Check.test("2 OLD: neighbours with a greater EPOCH share no KEY with it", () -> {
+        Check.test("2 OLD: a lower neighbour with a greater EPOCH shares no KEY with it", () -> {
+            RangeHouse x = Houses.withCallers(1);
+            x.split(0, 100);
+            x.call(0, 0, 100, 0, 0);
+            x.deliver(0);
+            x.split(0, 50);
+            x.call(0, 0, 99, 0, 0);
+            x.deliver(2);
+            x.deliver(3);
+            Check.copyIs(x, 0, 99, 2, 3, 0, 50, 100);
+            x.deliver(1);
+            Check.copyIs(x, 0, 100, 1, 2, 0, 100, 10000);
+            Check.copyIs(x, 0, 99, 2, 3, 0, 50, 100);
+            Check.copyIs(x, 0, 49, 0, 1, 0, 0, 50);
+        });
+        Check.test("2 OLD: an upper neighbour with a greater EPOCH shares no KEY with it", () -> {
             RangeHouse x = oldOfEpochTwo();
             x.split(1, 200);
             x.call(0, 0, 100, 0, 0);

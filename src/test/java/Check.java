@@ -57,9 +57,10 @@ final class Check {
 
     /** A CALL that is sent, delivered and ANSWERED at once: its count. */
     static int done(RangeHouse x, int caller, int kind, int key, long v, long w) {
+        int letter = sent(x);
         int count = x.call(caller, kind, key, v, w);
-        x.deliver(last(x));
-        x.deliver(last(x));
+        x.deliver(letter);
+        x.deliver(letter + 1);
         return count;
     }
 
@@ -85,10 +86,12 @@ final class Check {
     /** A MOVE from its start until the RANGE is FREE at the HOST. */
     static void moveWholly(RangeHouse x, int range, int host) {
         int home = x.range(range, 3);
-        int first = sent(x);
+        int next = sent(x);
         x.move(range, host);
         for (int i = 0; i < 40 && x.range(range, 6) != 1; i++) {
-            deliverFrom(x, first);
+            for (; next < sent(x); next++) {
+                x.deliver(next);
+            }
             if (x.range(range, 3) == home) {
                 x.step(home);
             }

@@ -453,45 +453,51 @@ public final class FullTest {
             Check.due("19 KEPT ANSWERS of 0", x.at(0, 0, 8), 4);
             Check.due("19 KEPT ANSWERS of 1", x.at(0, 1, 8), 4);
         });
-        Check.test("11 merge: of 4 and 4 the same 4 are KEPT", () -> {
+        Check.test("11 merge: of 4 and the same 4 those are KEPT", () -> {
             RangeHouse x = withAdds(4);
             delivered(x, 0, 1, 2, 3);
             x.split(0, 9);
             x.merge(0, 1);
             Check.due("19 KEPT ANSWERS", x.at(0, 0, 8), 4);
         });
-        Check.test("11 merge: of 4 and 4 others the 4 greatest counts are KEPT", () -> {
-            RangeHouse x = new RangeHouse();
-            x.split(0, 100);
-            x.caller();
-            for (int i = 0; i < 8; i++) {
-                x.call(0, 3, i % 2 == 0 ? 9 : 109, 1, 0);
-                x.deliver(2 * i);
-            }
-            Check.due("19 KEPT ANSWERS of 0", x.at(0, 0, 8), 4);
-            Check.due("19 KEPT ANSWERS of 1", x.at(0, 1, 8), 4);
-            x.merge(1, 0);
-            Check.due("19 KEPT ANSWERS", x.at(0, 1, 8), 4);
-            x.learn(0);
-            for (int count = 0; count < 8; count++) {
-                int sent = x.again(0, count) + 1;
-                x.deliver(sent - 1);
-                Check.due("an ANSWER of " + count, x.status(3) - sent, count < 4 ? 0 : 1);
-            }
-            Check.due("24 DONE", x.status(4), 8);
-        });
-        Check.test("11 merge: of 2 and 3 the 4 greatest counts are KEPT", () -> {
-            RangeHouse x = new RangeHouse();
-            x.split(0, 100);
-            x.caller();
-            int[] keys = {109, 9, 109, 9, 109};
-            for (int i = 0; i < keys.length; i++) {
-                x.call(0, 3, keys[i], 1, 0);
-                x.deliver(2 * i);
-            }
+        Check.test("11 merge: of 1 and the same 1 that is KEPT, once", () -> {
+            RangeHouse x = withAdds(1);
+            delivered(x, 0);
+            x.split(0, 9);
             x.merge(0, 1);
-            Check.due("19 KEPT ANSWERS", x.at(0, 0, 8), 4);
+            Check.due("19 KEPT ANSWERS", x.at(0, 0, 8), 1);
         });
+        keptOfMerge("4 and 4 in turns", 4, 9, 109, 9, 109, 9, 109, 9, 109);
+        keptOfMerge("4 and 4 above them", 4, 9, 9, 9, 9, 109, 109, 109, 109);
+        keptOfMerge("4 and 4 below them", 4, 109, 109, 109, 109, 9, 9, 9, 9);
+        keptOfMerge("2 and 3", 1, 109, 9, 109, 9, 109);
+        keptOfMerge("1 and 3", 0, 109, 109, 9, 109);
+        keptOfMerge("4 and none", 0, 9, 9, 9, 9);
+        keptOfMerge("none and 4", 0, 109, 109, 109, 109);
+    }
+
+    /** CALLS of KEYS of RANGE 0 (9) and RANGE 1 (109), which are merged, in both orders: those from a count on are KEPT. */
+    private static void keptOfMerge(String name, int from, int... keys) {
+        for (int first = 0; first < 2; first++) {
+            int a = first;
+            Check.test("11 merge: of " + name + " the 4 greatest counts are KEPT, by merge(" + a + ", " + (1 - a) + ")", () -> {
+                RangeHouse x = Houses.withRanges(2);
+                x.caller();
+                for (int i = 0; i < keys.length; i++) {
+                    x.call(0, 3, keys[i], 1, 0);
+                    x.deliver(2 * i);
+                }
+                x.merge(a, 1 - a);
+                Check.due("19 KEPT ANSWERS", x.at(0, a, 8), keys.length - from);
+                x.learn(0);
+                for (int count = 0; count < keys.length; count++) {
+                    int sent = x.again(0, count) + 1;
+                    x.deliver(sent - 1);
+                    Check.due("an ANSWER of " + count, x.status(3) - sent, count < from ? 0 : 1);
+                }
+                Check.due("24 DONE", x.status(4), keys.length);
+            });
+        }
     }
 
     private static void threeKeys() {

@@ -75,26 +75,8 @@ public final class LetterTest {
         Check.due("17: no REFUSAL", x.status(11), 0);
     }
 
-    /** 40 RANGES, 38 of them in a MOVE: a step of HOST 0 sends 38 LETTERS, or more. */
-    private static RangeHouse withLetters(int letters) {
-        RangeHouse x = new RangeHouse();
-        Check.cutAll(x);
-        x.caller();
-        x.caller();
-        for (int r = 0; r < 38; r++) {
-            Check.due("8: move", x.move(r, 1 + r % 5), x.range(r, 2) + 1);
-        }
-        while (x.status(3) + 38 <= letters) {
-            Check.due("12: step(0)", x.step(0), 38);
-        }
-        for (int i = 0; x.status(3) < letters; i++) {
-            Check.due("3: call", x.call(0, 0, 100, 0, 0), i);
-        }
-        return x;
-    }
-
     private static void nearTheLimit() {
-        RangeHouse x = withLetters(1197);
+        RangeHouse x = Houses.withLetters(1197);
         Check.due("12: 38 are too many", x.step(0), -6);
         Check.due("13: 1197 were sent", x.deliver(0), 1);
         Check.due("0 is GIVING", x.at(0, 0, 0), 2);
@@ -121,7 +103,7 @@ public final class LetterTest {
     }
 
     private static void atTheLimit() {
-        RangeHouse x = withLetters(1200);
+        RangeHouse x = Houses.withLetters(1200);
         int before = x.status(16);
         Check.due("1200 were sent", x.status(3), 1200);
         Check.due("3: call", x.call(1, 0, 0, 0, 0), -6);
@@ -144,7 +126,7 @@ public final class LetterTest {
     }
 
     private static void undoNeedsTwo() {
-        RangeHouse x = withLetters(1198);
+        RangeHouse x = Houses.withLetters(1198);
         int epoch = x.range(0, 2);
         Check.due("9: undo", x.undo(0), epoch + 2);
         Check.due("1200 were sent", x.status(3), 1200);
@@ -152,9 +134,9 @@ public final class LetterTest {
     }
 
     private static void stepNeedsAll() {
-        RangeHouse x = withLetters(1162);
+        RangeHouse x = Houses.withLetters(1162);
         Check.due("12: 38 fit", x.step(0), 38);
-        RangeHouse y = withLetters(1163);
+        RangeHouse y = Houses.withLetters(1163);
         Check.due("12: 38 do not", y.step(0), -6);
         Check.due("12: none is sent then", y.status(3), 1163);
         y.undo(0);

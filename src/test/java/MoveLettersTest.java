@@ -69,18 +69,20 @@ public final class MoveLettersTest {
         return x;
     }
 
-    /** A MOVE of RANGE 0 with ROWS is undone (E 2) behind a PART (LETTER 10), then one with E 4 begun; its PART is the last. */
-    private static RangeHouse secondMove(boolean partCameLate) {
+    /** The MOVE of E 2 is undone, and RANGE 0 is FREE; PART 0 (LETTER 10) did not come yet. */
+    private static RangeHouse undoneBehindPart() {
         RangeHouse x = partSent();
         x.undo(0);
         for (int l = 11; l < 15; l++) {
             x.deliver(l);
         }
         Check.due("FREE", x.range(0, 6), 1);
-        if (partCameLate) {
-            x.deliver(10);
-            Check.due("TAKING E 2", x.at(1, 0, 0) * 10 + x.at(1, 0, 1), 42);
-        }
+        return x;
+    }
+
+    /** Then a MOVE of E 4 is begun: its PART 0 is the last LETTER, and sent. */
+    private static RangeHouse secondMove() {
+        RangeHouse x = undoneBehindPart();
         x.move(0, 1);
         x.deliver(Check.last(x));
         x.step(0);
@@ -158,6 +160,19 @@ public final class MoveLettersTest {
             Check.atIs(x, 1, 0, 4, 2, 3, 0, 10000, 2, 1, NONE, 0);
             tookIsLast(x, 2, 2, 0);
         });
+        Check.test("4 PART: NOTHING, m 0, E as PAST, ATTEMPT 3 behind 2: TAKING", () -> {
+            RangeHouse x = secondAttempt();
+            x.deliver(16);
+            x.fall(1);
+            x.rise(1);
+            x.deliver(16);
+            tookIsLast(x, 2, 2, -1);
+            x.deliver(Check.last(x));
+            x.step(0);
+            x.deliver(Check.last(x));
+            Check.atIs(x, 1, 0, 4, 2, 3, 0, 10000, 3, 1, NONE, 0);
+            tookIsLast(x, 2, 3, 0);
+        });
         Check.test("4 PART: NOTHING, m 0, E above PAST, ATTEMPT not: TAKING", () -> {
             RangeHouse x = secondAttempt();
             x.deliver(16);
@@ -174,7 +189,7 @@ public final class MoveLettersTest {
             Check.atIs(x, 1, 0, 4, 4, 3, 0, 10000, 1, 1, NONE, 0);
         });
         Check.test("4 PART: NOTHING, m 0, E below PAST: a TOOK with -1", () -> {
-            RangeHouse x = secondMove(false);
+            RangeHouse x = secondMove();
             x.deliver(Check.last(x));
             Check.due("19 TAKING E 4", x.at(1, 0, 1), 4);
             x.fall(1);
@@ -220,19 +235,15 @@ public final class MoveLettersTest {
             return x;
         }, 13, 1);
         Edge.doesNothing("4 PART: TAKING with a greater E: nothing", () -> {
-            RangeHouse x = secondMove(false);
+            RangeHouse x = secondMove();
             x.deliver(Check.last(x));
             return x;
         }, 10, 1);
-        Check.test("4 PART: TAKING, m 0, E above: TAKING anew, without ROWS", () -> {
-            RangeHouse x = secondMove(true);
-            int part = Check.last(x);
-            RangeHouse y = secondMoveOfOneRow();
-            Check.due("19 ROWS", y.at(1, 0, 2), 3);
-            y.deliver(Check.last(y));
-            Check.atIs(y, 1, 0, 4, 4, 1, 0, 10000, 1, 1, NONE, 0);
-            x.deliver(part);
-            Check.atIs(x, 1, 0, 4, 4, 3, 0, 10000, 1, 1, NONE, 0);
+        Check.test("4 PART: TAKING, m 0, E above: TAKING anew, without the ROWS that it had", () -> {
+            RangeHouse x = secondMoveOfOneRow();
+            Check.atIs(x, 1, 0, 4, 2, 3, 0, 10000, 1, 1, NONE, 0);
+            x.deliver(Check.last(x));
+            Check.atIs(x, 1, 0, 4, 4, 1, 0, 10000, 1, 1, NONE, 0);
             tookIsLast(x, 4, 1, 0);
         });
         Check.test("4 PART: TAKING, the END: the KEPT ANSWERS are as told, READY", () -> {
@@ -265,13 +276,9 @@ public final class MoveLettersTest {
         });
     }
 
-    /** As secondMove(true), but with 3 of the 4 ROWS struck between the two. */
+    /** As secondMove, but PART 0 of E 2 came late, and 3 of the 4 ROWS are struck. */
     private static RangeHouse secondMoveOfOneRow() {
-        RangeHouse x = partSent();
-        x.undo(0);
-        for (int l = 11; l < 15; l++) {
-            x.deliver(l);
-        }
+        RangeHouse x = undoneBehindPart();
         x.deliver(10);
         x.learn(1);
         for (int key = 100; key < 103; key++) {
@@ -669,7 +676,7 @@ public final class MoveLettersTest {
             isLast(x, 14, 0, 1, 2);
         });
         Check.test("13 DROP: TAKING with another E: it stays; a DROPPED goes back", () -> {
-            RangeHouse x = secondMove(false);
+            RangeHouse x = secondMove();
             x.deliver(Check.last(x));
             x.deliver(12);
             Check.due("17 KIND", x.letter(12, 0), 13);
