@@ -352,6 +352,23 @@ public final class BookEdgeTest {
             x.move(1, 3);
             Check.due("plan", x.plan(), NONE);
         });
+        Check.test("22 plan: a RANGE that is FREE at another HOST, and left TAKING at this one, is none", () -> {
+            RangeHouse x = withRows(3, 5);
+            x.move(0, 1);
+            int begin = Check.last(x);
+            x.deliver(begin);
+            x.step(0);
+            x.undo(0);
+            for (int l = begin + 3; l < begin + 7; l++) {
+                x.deliver(l);
+            }
+            Check.moveWholly(x, 1, 1);
+            x.deliver(begin + 2);
+            Check.due("18 HOME and FREE", x.range(0, 3) * 10 + x.range(0, 6), 1);
+            Check.due("19 TAKING, 3 ROWS", x.at(1, 0, 0) * 10 + x.at(1, 0, 2), 43);
+            Check.due("21 weights", x.weight(0) * 10 + x.weight(1), 35);
+            Check.due("plan", x.plan(), NONE);
+        });
         Check.test("22 plan: RANGE 39, the last of 40", () -> {
             RangeHouse x = Houses.withRanges(40);
             x.caller();

@@ -456,6 +456,15 @@ public final class MoveLettersTest {
             Check.due("19 CLOSED", x.at(0, 0, 0), 3);
             return x;
         }, 8, 1);
+        Edge.doesNothing("5 TOOK: -1, NOTHING by now, as it went: nothing", () -> {
+            RangeHouse x = Houses.plainMove(Houses.GONE);
+            Check.moveWholly(x, 0, 2);
+            x.deliver(Houses.END);
+            tookIsLast(x, 2, 1, -1);
+            return x;
+        }, 17, 1);
+        Edge.doesNothing("5 TOOK: -1 of an earlier MOVE, WHOLE by now: nothing", () -> cameBack(false), 17, 1);
+        Edge.doesNothing("5 TOOK: -1 of an earlier MOVE, GIVING by now: nothing", () -> cameBack(true), 17, 1);
         Check.test("5 TOOK: -1: KEYS whose ROWS went are to be sent no more", () -> {
             RangeHouse x = nextSent();
             Check.done(x, 1, 2, 100, 0, 0);
@@ -466,6 +475,20 @@ public final class MoveLettersTest {
             x.deliver(Check.last(x));
             Check.atIs(x, 0, 0, 2, 1, 3, 0, 10000, 2, 0, 3, 5);
         });
+    }
+
+    /** RANGE 0 went to HOST 1 (E 2) and came back (E 3); LETTER 17 is a late TOOK with -1 of E 2. It may be GIVING again (E 4). */
+    private static RangeHouse cameBack(boolean giving) {
+        RangeHouse x = Houses.plainMove(Houses.GONE);
+        Check.moveWholly(x, 0, 0);
+        x.deliver(Houses.END);
+        tookIsLast(x, 2, 1, -1);
+        if (giving) {
+            x.move(0, 1);
+            x.deliver(18);
+            x.step(0);
+        }
+        return x;
     }
 
     private static void done() {
@@ -574,6 +597,21 @@ public final class MoveLettersTest {
             x.deliver(Houses.GO);
             Check.due("24 LETTERS", x.status(3), 10);
             isLast(x, 10, 0, 0, 2);
+        });
+        Check.test("9 GO: NOTHING by now: it is not GIVEN again, behind what the HOST GAVE since", () -> {
+            RangeHouse x = Houses.plainMove(Houses.GONE);
+            x.split(0, 500);
+            Check.moveWholly(x, 1, 0);
+            x.caller();
+            Check.moveWholly(x, 1, 2);
+            for (int i = 0; i < 2; i++) {
+                int call = x.status(3);
+                x.call(0, 0, 600, 0, 0);
+                x.deliver(call);
+                Check.letterIs(x, call + 1, 2, 0, 0, 1, 5, i, NONE, NONE, NONE);
+                x.deliver(Houses.GO);
+                isLast(x, 10, 0, 0, 2);
+            }
         });
         Check.test("9 GO: WHOLE with an EPOCH above: it stays; a GONE goes back", () -> {
             RangeHouse x = thirdMove();

@@ -70,6 +70,16 @@ public final class StepEdgeTest {
                 sends(Houses.plainUndo(0), host);
             }
         });
+        Check.test("12 step: RANGES that THE BOOK has no more are passed over", () -> {
+            RangeHouse x = Houses.withRanges(4);
+            x.merge(1, 0);
+            x.merge(3, 2);
+            x.move(3, 1);
+            sends(x, 0, 3);
+            x.move(1, 1);
+            sends(x, 0, 3, 3);
+            Check.due("17 RANGE", x.letter(Check.last(x), 3), 3);
+        });
         Check.test("12 step: THE BOOK's RANGES by numbers, then HOST 0's by numbers", () -> {
             RangeHouse x = Houses.withRanges(3);
             x.move(2, 1);
