@@ -1,3 +1,7 @@
+import java.lang.reflect.Constructor;
+import java.lang.reflect.Field;
+import java.lang.reflect.Method;
+import java.lang.reflect.Modifier;
 import java.nio.file.Files;
 import java.nio.file.Path;
 import java.util.regex.Matcher;
@@ -26,6 +30,11 @@ public final class RulesTest {
         }
         noNameTwice(code);
         sizes(code);
+        members(RangeHouse.class);
+        for (Class<?> inside : RangeHouse.class.getDeclaredClasses()) {
+            Check.holds("static " + inside, Modifier.isStatic(inside.getModifiers()));
+            members(inside);
+        }
         Check.end("RulesTest");
     }
 
@@ -60,5 +69,22 @@ public final class RulesTest {
             }
         }
         Check.holds("twelve classes at most: " + classes, classes <= 12);
+    }
+
+    /** Seven parameters at most, twenty fields at most, and no static state. */
+    private static void members(Class<?> it) {
+        int fields = 0;
+        for (Field f : it.getDeclaredFields()) {
+            boolean constant = Modifier.isStatic(f.getModifiers());
+            Check.holds("final: " + f, !constant || Modifier.isFinal(f.getModifiers()));
+            fields += constant ? 0 : 1;
+        }
+        Check.holds("twenty fields at most: " + it, fields <= 20);
+        for (Method m : it.getDeclaredMethods()) {
+            Check.holds("seven parameters at most: " + m, m.getParameterCount() <= 7);
+        }
+        for (Constructor<?> c : it.getDeclaredConstructors()) {
+            Check.holds("seven parameters at most: " + c, c.getParameterCount() <= 7);
+        }
     }
 }
